@@ -13,6 +13,7 @@ public final class EntailedJoke {
     private final House now = new House();
     private final House imageZero = new House();
     private final House imageOne = new House();
+    // a house is read into this one, so that one that can not be read leaves all as it is
     private final House draft = new House();
     private final Script script = new Script();
     private final Ruler ruler = new Ruler();

@@ -66,6 +66,10 @@ public final class FunTest {
         joke.forget();
         joke.heard(0, 0);
         checks.due("0 in none", joke.door(), 145);
+        Checks.tell(joke, 3, 0);
+        checks.due("0 in one", joke.door(), 145);
+        joke.forget();
+        checks.due("nothing heard, 0 in one", joke.door(), 153);
     }
 
     private static void next() {
@@ -135,7 +139,10 @@ public final class FunTest {
             dueFunniest(joke, 14, 0, 7, 9);
             dueFunniest(joke, 21, 7, 9, 7, 9);
         }
-        checks.due("funniest(4, 3), asked first", new EntailedJoke().funniest(4, 3), 9);
+        joke = new EntailedJoke();
+        dueFunniest(joke, 21, 7, 9, 7, 9);
+        dueFunniest(joke, 12, 7, 9);
+        dueFunniest(joke, 0);
         checks.dueStatus(joke, 0, 0, 0);
         for (int wrong : new int[] {-1, 5, Integer.MIN_VALUE, Integer.MAX_VALUE}) {
             checks.dueRefused(joke, "funniest(" + wrong + ", 0)", j -> j.funniest(wrong, 0), -1000, BAD);
@@ -191,7 +198,12 @@ public final class FunTest {
         checks.due("pawned(16, 1)", joke.pawned(16, 1), NONE);
         checks.due("pawned(1023, 1)", joke.pawned(1023, 1), NONE);
         Checks.tell(joke, 0, 0, 1, 2);
-        checks.due("pawned(1, 1), fewer ahead of less", joke.pawned(7, 1), 1);
+        checks.due("pawned(7, 1)", joke.pawned(7, 1), 1);
+        EntailedJoke three = Checks.with(0, 0);
+        Checks.tell(three, 1, 1);
+        Checks.tell(three, 7, 0, 1);
+        checks.due("pawned(3, 1), fewer ahead of less", three.pawned(3, 1), 128);
+        checks.due("pawned(1, 1), less ahead of more", three.pawned(1, 1), 1);
         for (int wrong : new int[] {-1, 1024, Integer.MIN_VALUE, Integer.MAX_VALUE}) {
             checks.dueRefused(joke, "pawned(" + wrong + ", 0)", j -> j.pawned(wrong, 0), BAD, BAD);
         }
@@ -211,6 +223,12 @@ public final class FunTest {
         EntailedJoke none = new EntailedJoke();
         dueOdds(none, 0, 4, 10, 0, 1);
         dueOdds(none, 0, 0, 0, 0, 1);
+        EntailedJoke single = Checks.with(4, 6);
+        dueOdds(single, 6, 1, 3, 7, 10);
+        dueOdds(single, 6, 4, 7, 81, 10000);
+        EntailedJoke ten = Checks.with(4, 6, 6, 6, 1, 2, 3, 4, 5, 0, 0);
+        dueOdds(ten, 6, 4, 10, 29, 30);
+        dueOdds(ten, 0, 2, 10, 44, 45);
         EntailedJoke joke = Checks.with(4, 1, 2, 2);
         dueOdds(joke, 3, 4, 5, 0, 1);
         dueOdds(joke, 1, 0, 10, 1, 1);

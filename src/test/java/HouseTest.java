@@ -229,6 +229,28 @@ public final class HouseTest {
         Checks.tell(joke, 1, 5);
         checks.due("undo() behind that", joke.undo(), 1);
         checks.dueTale(joke, 1);
+        ofManyBranches();
+    }
+
+    private static void ofManyBranches() {
+        checks.about("promise 7, of many branches");
+        EntailedJoke joke = Checks.with(0, 3);
+        int[] parents = {NONE, NONE, NONE, NONE, NONE, NONE, NONE, NONE};
+        for (int branch = 1; branch < 8; branch++) {
+            joke.hand((branch - 1) / 2, branch, 0, 0, 0);
+            parents[branch] = (branch - 1) / 2;
+        }
+        joke.hand(5, 6, 0, 0, 0);
+        joke.hand(5, 7, 0, 0, 0);
+        int[] undone = {7, 6, 7, 6, 5, 4, 3, 2};
+        for (int i = 0; i < undone.length; i++) {
+            checks.due("undo()", joke.undo(), i < 2 ? 8 : 9 - i);
+            int due = i < 2 ? parents[undone[i]] : NONE;
+            checks.due("parent(" + undone[i] + ")", joke.parent(undone[i]), due);
+            checks.due("size of " + undone[i], joke.at(undone[i], NONE), i < 2 ? 1 : 0);
+        }
+        checks.due("undo()", joke.undo(), NO);
+        checks.dueTale(joke, 1, 3);
     }
 
     private static void type() {

@@ -94,6 +94,16 @@ public final class ReadTest {
         checks.due("no word", Checks.read(joke, "house; tail 0;"), -17);
         checks.due("a shorter word", Checks.read(joke, "hous;"), -10);
         checks.due("a longer word", Checks.read(joke, "house;hands 0 1 0 0 0;"), -16);
+        checks.due("another first letter", Checks.read(joke, "xouse;"), -10);
+        checks.due("another last letter", Checks.read(joke, "housz;"), -10);
+        checks.due("a letter more", Checks.read(joke, "housez;"), -10);
+        checks.due("tale's first letter", Checks.read(joke, "house;hale 0;"), -16);
+        checks.due("hand's first letter", Checks.read(joke, "house;tale 0 1;tand 0 1 0 0 0;"), -25);
+        checks.due("a byte behind ;", Checks.read(joke, "house<"), -15);
+        checks.due("a byte ahead of ;", Checks.read(joke, "house:"), -15);
+        checks.due("an upper letter", Checks.read(joke, "house;tale 0 1A"), -24);
+        checks.due("a byte behind z", Checks.read(joke, "house{;"), -15);
+        checks.due("a byte ahead of a", Checks.read(joke, "house`;"), -15);
         checks.due("an upper word", Checks.read(joke, "House;"), -10);
         checks.due("an upper end of a word", Checks.read(joke, "housE;"), -10);
         checks.due("house again", Checks.read(joke, "house;tale 0;house;"), -23);
@@ -118,6 +128,8 @@ public final class ReadTest {
         checks.due("b is a", Checks.read(joke, told + "hand 2 2 0 0 0;"), -32);
         checks.due("b is less", Checks.read(joke, told + "hand 2 1 0 0 0;"), -32);
         checks.due("b of 8", Checks.read(joke, told + "hand 2 8 0 0 0;"), -32);
+        checks.due("no b is greater than 7", Checks.read(joke, "house;tale 7 5;hand 7 7 0 0 0;"), -32);
+        checks.due("a of 6", Checks.read(joke, "house;tale 6 5;hand 6 7 0 0 0;"), 3);
         checks.due("kind of 6", Checks.read(joke, told + "hand 2 3 6 0 0;"), -34);
         checks.due("kind of 5", Checks.read(joke, told + "hand 2 3 5 0 0;"), 3);
         checks.due("place of 10", Checks.read(joke, told + "hand 2 3 0 10 0;"), -36);

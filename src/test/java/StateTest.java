@@ -9,6 +9,7 @@ public final class StateTest {
         part();
         image();
         from();
+        fromBehindOthers();
         status();
         count();
         digest();
@@ -107,6 +108,40 @@ public final class StateTest {
         for (int wrong : WRONG_BITS) {
             checks.dueRefused(joke, "from(" + wrong + ")", j -> j.from(wrong), BAD, BAD);
         }
+    }
+
+    /** What came behind an image must not show through it. */
+    private static void fromBehindOthers() {
+        checks.about("promise 31, others behind the image");
+        EntailedJoke joke = new EntailedJoke();
+        Checks.tell(joke, 0, 1, 2);
+        Checks.tell(joke, 1, 2, 3);
+        joke.hand(0, 2, 0, 0, 0);
+        joke.hand(1, 2, 0, 0, 0);
+        joke.heard(2, 1);
+        joke.heard(1, 0);
+        joke.image(1);
+        joke.forget();
+        joke.heard(3, 0);
+        joke.heard(2, 1);
+        joke.undo();
+        joke.undo();
+        joke.undo();
+        joke.undo();
+        for (int branch = 4; branch < 8; branch++) {
+            Checks.tell(joke, branch, 5);
+        }
+        joke.from(1);
+        checks.due("door()", joke.door(), 6);
+        checks.due("undo()", joke.undo(), 3);
+        checks.dueTale(joke, 2, 1, 2);
+        checks.due("parent(2)", joke.parent(2), 0);
+        checks.due("undo()", joke.undo(), 2);
+        checks.dueTale(joke, 2);
+        checks.due("parent(2)", joke.parent(2), NONE);
+        checks.due("undo()", joke.undo(), 1);
+        checks.dueTale(joke, 1);
+        checks.dueTale(joke, 0, 1, 2);
     }
 
     private static void status() {

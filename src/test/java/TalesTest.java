@@ -51,6 +51,8 @@ public final class TalesTest {
         dueApart(new int[] {1, 2, 3}, new int[] {3, 2, 1}, 2);
         dueApart(new int[] {3, 1}, new int[] {1, 2, 3}, 3);
         dueApart(new int[] {1, 2}, new int[] {2, 1}, 1);
+        dueApart(new int[] {1, 5}, new int[] {2, 1}, 2);
+        dueApart(new int[] {1, 5}, new int[] {5, 2}, 2);
         dueApart(new int[] {1, 2, 3, 4}, new int[] {2, 1, 4, 3}, 2);
         dueApart(new int[] {0, 1, 2, 3, 4, 5, 6, 7, 8, 9}, new int[] {}, 10);
         dueApart(new int[] {0, 1, 2, 3, 4, 5, 6, 7, 8, 9}, new int[] {9, 8, 7, 6, 5, 4, 3, 2, 1, 0}, 9);
@@ -80,6 +82,11 @@ public final class TalesTest {
         Checks.tell(joke, 1, 1);
         checks.due("first(0) of five", joke.first(0), 7);
         checks.due("first(1) of five", joke.first(1), 5);
+        EntailedJoke three = Checks.with(0, 1, 2);
+        Checks.tell(three, 4, 1);
+        Checks.tell(three, 5, 2);
+        checks.due("first(0) of branch 0", three.first(0), 0);
+        checks.due("first(1) of branch 0", three.first(1), 2);
         for (int wrong : WRONG_BITS) {
             checks.dueRefused(joke, "first(" + wrong + ")", j -> j.first(wrong), BAD, BAD);
         }
