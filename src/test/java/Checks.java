@@ -1,3 +1,5 @@
+import java.util.Arrays;
+
 /** Counts and prints the answers that are not as due; the tests share it. */
 final class Checks {
     private int wrong = 0;
@@ -30,6 +32,21 @@ final class Checks {
             System.out.println(wrong + " answers are not as due");
             System.exit(1);
         }
+    }
+
+    /** The parts 0, 1, 2 ..: n of them, all unlike. */
+    static int[] rising(int n) {
+        int[] parts = new int[n];
+        for (int i = 0; i < n; i++) {
+            parts[i] = i;
+        }
+        return parts;
+    }
+
+    static int[] like(int x, int n) {
+        int[] parts = new int[n];
+        Arrays.fill(parts, x);
+        return parts;
     }
 
     static EntailedJoke with(int branch, int... parts) {
