@@ -410,6 +410,15 @@ public final class BoundaryHouseTest {
         Checks.tell(joke, 7, 3);
         joke.hand(7, 7, PLAIN, 0, 0);
         checks.due("house() of one", joke.house(), 1);
+        EntailedJoke full = Checks.with(0, Checks.rising(10));
+        for (int b = 1; b < 8; b++) {
+            full.hand(b - 1, b, PLAIN, 0, 0);
+            full.say(b);
+            full.heard(b, b % 2);
+        }
+        checks.due("house() of a full one", full.house(), 8);
+        checks.due("digest()", full.digest(), new EntailedJoke().digest());
+        checks.due("undo()", full.undo(), NO);
     }
 
     private static void houseLeaves() {

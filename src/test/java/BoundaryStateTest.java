@@ -143,21 +143,32 @@ public final class BoundaryStateTest {
 
     private static void undoTalesAndParents() {
         sentence.of("Terms", "UNDO: TALES, PARENTS as ahead of the last TELLING,");
-        EntailedJoke joke = Checks.with(0, 1, 2, 3);
-        List<Long> digests = new ArrayList<>();
-        int[][] hands = {{0, 7, 1}, {0, 7, 2}, {0, 3, 3}, {3, 7, 4}, {0, 1, 5}, {1, 7, 0}, {1, 3, 1}};
-        for (int[] hand : hands) {
-            digests.add(joke.digest());
-            joke.hand(hand[0], hand[1], hand[2], 0, 4);
+        int[][] hands = {{0, 1, 0}, {0, 7, 1}, {0, 7, 2}, {0, 3, 3}, {3, 7, 4}, {0, 1, 5}, {1, 7, 0}, {1, 3, 1},
+            {3, 4, 2}, {4, 5, 3}, {5, 7, 5}, {4, 7, 0}, {1, 7, 4}};
+        for (int many = 1; many <= hands.length; many++) {
+            EntailedJoke joke = Checks.with(0, 1, 2, 3);
+            List<Long> digests = new ArrayList<>();
+            for (int[] hand : List.of(hands).subList(0, many)) {
+                digests.add(withoutUndo(joke));
+                joke.hand(hand[0], hand[1], hand[2], 0, 4);
+            }
+            for (int i = many - 1; i >= Math.max(0, many - 8); i--) {
+                joke.undo();
+                checks.due("what is there behind undo() of telling " + i, withoutUndo(joke), digests.get(i));
+            }
+            checks.due("the last undo()", joke.undo(), many <= 7 ? 0 : NO);
         }
-        checks.due("count(4)", joke.count(4), 8);
-        for (int i = hands.length - 1; i >= 0; i--) {
-            joke.undo();
-            checks.due("digest() behind undo() of telling " + i, joke.digest(), digests.get(i));
+    }
+
+    /** The digest less what it has of how many may be undone. */
+    private static long withoutUndo(EntailedJoke joke) {
+        long h = 1;
+        // count(4) is the fifth number, and so many come behind it
+        int behind = 1 + 8 + joke.count(1) + 8 + joke.count(2) + 2 * joke.count(3) + 2;
+        for (int i = 0; i < behind; i++) {
+            h *= 31;
         }
-        checks.due("the last undo()", joke.undo(), 0);
-        checks.due("digest()", joke.digest(), new EntailedJoke().digest());
-        checks.dueRefused(joke, "undo()", j -> j.undo(), NO, NO);
+        return joke.digest() - h * joke.count(4);
     }
 
     private static void undoOfTaleTold() {
@@ -216,6 +227,9 @@ public final class BoundaryStateTest {
         joke.undo();
         joke.hush();
         joke.forget();
+        for (int i = 0; i < 6; i++) {
+            joke.heard(i, (i + 1) % 2);
+        }
         checks.due("from(0)", joke.from(0), 1);
         checks.due("count(5)", joke.count(5), 6);
         checks.due("part(1)", joke.part(1), 2);
@@ -229,27 +243,38 @@ public final class BoundaryStateTest {
         checks.due("from(0), kept on", joke.from(0), 1);
     }
 
+    private static EntailedJoke told(int many) {
+        EntailedJoke joke = new EntailedJoke();
+        joke.say(4);
+        for (int i = 0; i < many; i++) {
+            int had = i < 2 ? joke.tale(i) : joke.hand(i % 2, 2 + i % 5, i % 3 == 0 ? 2 : 5, 0, i % 10);
+            checks.holds("telling " + i, had > 0);
+        }
+        return joke;
+    }
+
     private static void imagesKeepWhatMayBeUndone() {
         sentence.of("Terms", "what may be undone they keep; it goes on from one.");
-        for (int told = 0; told <= 9; told++) {
-            EntailedJoke joke = new EntailedJoke();
-            for (int i = 0; i < told; i++) {
-                Checks.tell(joke, i % 8, i);
-            }
+        for (int many = 0; many <= 12; many++) {
+            List<Long> due = new ArrayList<>();
+            look(told(many), due);
+            EntailedJoke joke = told(many);
+            joke.image(0);
             joke.image(1);
-            int many = Math.min(told, 8);
-            dueUndone(joke, many);
+            int undoable = Math.min(many, 8);
+            dueUndone(joke, undoable);
             for (int i = 0; i < 9; i++) {
-                Checks.tell(joke, 7, 9, 9);
+                Checks.tell(joke, i % 7, 9, 9);
+                joke.hand(i % 7, 7, 0, 0, 0);
             }
-            checks.due("from(1)", joke.from(1), 1);
-            checks.due("count(4)", joke.count(4), many);
-            for (int i = told - 1; i >= told - many; i--) {
-                checks.due("at(" + i % 8 + ", 0)", joke.at(i % 8, 0), i);
-                joke.undo();
-                checks.due("at(" + i % 8 + ", 0) behind undo()", joke.at(i % 8, 0), i == 8 ? 0 : -5);
+            joke.from(0);
+            checks.due("count(4)", joke.count(4), undoable);
+            for (int i = 0; i < 2; i++) {
+                checks.due("from(" + i + ")", joke.from(i), 1);
+                List<Long> seen = new ArrayList<>();
+                look(joke, seen);
+                checks.holds("from(" + i + ") of " + many + " told: what may be undone", seen.equals(due));
             }
-            checks.due("undo() of no more", joke.undo(), NO);
         }
     }
 

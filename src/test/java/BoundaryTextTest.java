@@ -454,7 +454,10 @@ public final class BoundaryTextTest {
             checks.due("at(" + branch + ", NONE)", joke.at(branch, NONE), branch == 3 ? 1 : 0);
             checks.due("parent(" + branch + ")", joke.parent(branch), NONE);
         }
+        checks.due("read() of another", Checks.read(joke, "house;tale 0 1;hand 0 7 0 0 0;"), 3);
+        checks.due("parent(7)", joke.parent(7), 0);
         checks.due("read() of house alone", Checks.read(joke, "house;"), 1);
+        checks.due("parent(7)", joke.parent(7), NONE);
         checks.due("count(0)", joke.count(0), 0);
     }
 
