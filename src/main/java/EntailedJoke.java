@@ -418,6 +418,11 @@ public final class EntailedJoke {
             return size < MOST_PARTS ? tale + 1 + ((long) x << 4 * size + 4) : tale;
         }
 
+        static long addedAhead(long tale, int x) {
+            int size = sizeOf(tale);
+            return size < MOST_PARTS ? (tale >>> 4 << 8) + ((long) x << 4) + size + 1 : tale;
+        }
+
         static boolean has(long tale, int x) {
             return (kindsIn(tale) >> x & 1) == 1;
         }
@@ -906,19 +911,15 @@ public final class EntailedJoke {
                 times += 1L << 4 * x;
                 ahead = x;
             }
-            return fun + funOfEnd(ahead);
+            return ahead == POINT ? fun + POINT_FUN : fun;
         }
 
-        static int funOfNext(int ahead, int x, int timesAhead) {
+        private static int funOfNext(int ahead, int x, int timesAhead) {
             int fun = x == ahead ? 0 : UNLIKE_FUN;
             if (ahead == DUCK && x == POINT) {
                 fun += DUCK_FUN;
             }
             return timesAhead >= STALE_TIMES ? fun - STALE_FUN : fun;
-        }
-
-        static int funOfEnd(int last) {
-            return last == POINT ? POINT_FUN : 0;
         }
 
         static int funniestSlip(long tale) {
@@ -944,42 +945,44 @@ public final class EntailedJoke {
     /** The funniest rows: the same for every house, so each is looked for once and kept. */
     private static final class Funniest {
         private final long[] rows = new long[MOST_ROW + 1];
-        private final boolean[] isFound = new boolean[MOST_ROW + 1];
-        private long bestRow;
-        private int mostFun;
-        private boolean isAny;
 
         long rowOf(int m) {
             if (!isUpTo(m, MOST_ROW)) {
                 return Tales.EMPTY;
             }
-            if (!isFound[m]) {
-                isAny = false;
-                search(Tales.EMPTY, NONE, 0, m);
-                rows[m] = bestRow;
-                isFound[m] = true;
+            if (rows[m] == Tales.EMPTY) {
+                rows[m] = firstFunniest(m);
             }
             return rows[m];
         }
 
-        /** At most five deep: rest is four at first, and one less in each call within it. */
-        private void search(long row, int ahead, int fun, int rest) {
-            if (rest <= 0) {
-                keepFunnier(row, fun + Laws.funOfEnd(ahead));
-                return;
+        private static long firstFunniest(int m) {
+            int all = 1;
+            for (int i = 0; i < m; i++) {
+                all *= PART_KINDS;
             }
-            for (int x = 0; x < PART_KINDS; x++) {
-                int more = Laws.funOfNext(ahead, x, Tales.timesIn(row, x));
-                search(Tales.added(row, x), x, fun + more, rest - 1);
+            long best = Tales.EMPTY;
+            int most = 0;
+            for (int number = 0; number < all; number++) {
+                long row = rowOfFigures(number, m);
+                int fun = Laws.funOf(row);
+                if (number == 0 || fun > most) {
+                    best = row;
+                    most = fun;
+                }
             }
+            return best;
         }
 
-        private void keepFunnier(long row, int fun) {
-            if (!isAny || fun > mostFun) {
-                bestRow = row;
-                mostFun = fun;
-                isAny = true;
+        /** The figures of the number are the parts: so the rows come in the order of their numbers. */
+        private static long rowOfFigures(int number, int m) {
+            long row = Tales.EMPTY;
+            int left = number;
+            for (int i = 0; i < m; i++) {
+                row = Tales.addedAhead(row, left % PART_KINDS);
+                left /= PART_KINDS;
             }
+            return row;
         }
     }
 

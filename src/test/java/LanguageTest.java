@@ -7,7 +7,9 @@ import java.nio.file.Files;
 import java.nio.file.Path;
 import java.util.ArrayList;
 import java.util.List;
+import java.util.Map;
 import java.util.Set;
+import java.util.TreeMap;
 import java.util.TreeSet;
 import java.util.regex.Matcher;
 import java.util.regex.Pattern;
@@ -33,6 +35,7 @@ public final class LanguageTest {
         words(code);
         library(code);
         lengths(code);
+        depths(code);
         checks.end();
     }
 
@@ -144,5 +147,63 @@ public final class LanguageTest {
             }
             checks.holds("line " + line + ": methods of sixty lines at most", line - from <= 60);
         }
+    }
+
+    /** By names: overloaded methods are told by how many parameters they take. */
+    private static void depths(String code) {
+        Map<String, Set<String>> calls = new TreeMap<>();
+        Matcher header = Pattern.compile("(?m)^ +(?:public |private |static )*[\\w\\[\\]]+ (\\w+)\\(([^)]*)\\) \\{").matcher(code);
+        List<String> names = new ArrayList<>();
+        List<Integer> starts = new ArrayList<>();
+        List<Integer> ends = new ArrayList<>();
+        while (header.find()) {
+            names.add(header.group(1) + "/" + parameters(header.group(2)));
+            starts.add(header.end());
+            ends.add(header.start());
+        }
+        checks.about("rule 11");
+        checks.holds("every method has a name of its own", new TreeSet<>(names).size() == names.size());
+        ends.add(code.length());
+        for (int i = 0; i < names.size(); i++) {
+            calls.put(names.get(i), called(code.substring(starts.get(i), ends.get(i + 1)), names));
+        }
+        for (String name : names) {
+            checks.holds(name + ": eight deep at most, and no recursion", depth(name, calls, 0) <= 8);
+        }
+    }
+
+    private static Set<String> called(String body, List<String> names) {
+        Set<String> called = new TreeSet<>();
+        Matcher call = Pattern.compile("(\\w+)\\(").matcher(body);
+        while (call.find()) {
+            int open = 1;
+            int end = call.end();
+            StringBuilder own = new StringBuilder();
+            for (; open > 0 && end < body.length(); end++) {
+                char c = body.charAt(end);
+                open += c == '(' ? 1 : c == ')' ? -1 : 0;
+                own.append(open == 1 && c != ')' ? c : ' ');
+            }
+            String name = call.group(1) + "/" + parameters(own.toString());
+            if (names.contains(name)) {
+                called.add(name);
+            }
+        }
+        return called;
+    }
+
+    private static int parameters(String list) {
+        return list.isBlank() ? 0 : list.split(",").length;
+    }
+
+    private static int depth(String name, Map<String, Set<String>> calls, int above) {
+        int deepest = 0;
+        if (above > 20) {
+            return 1;
+        }
+        for (String called : calls.get(name)) {
+            deepest = Math.max(deepest, depth(called, calls, above + 1));
+        }
+        return deepest + 1;
     }
 }

@@ -696,4 +696,5 @@ final class Model {
             h = 31 * h + v;
         }
         return h;
-    }}
+    }
+}
